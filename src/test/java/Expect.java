@@ -35,6 +35,16 @@ final class Expect {
         refused(what, IllegalStateException.class, call);
     }
 
+    /** For a call whose answer another test looks at: it only may not throw. */
+    void answers(String what, Call call) {
+        seen++;
+        try {
+            call.answer();
+        } catch (RuntimeException thrown) {
+            tellWrong(what + " threw " + thrown + ", due is an answer");
+        }
+    }
+
     void end() {
         System.out.println(test + ": " + (seen - wrong) + " of " + seen + " answers are as due");
         if (wrong > 0 || seen == 0) {

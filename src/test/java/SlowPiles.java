@@ -36,34 +36,41 @@ final class SlowPiles {
         piles[pile].states = null;
     }
 
-    /** A state: for each piece its place, the ground's force at it, F above it. */
     private static long[][] state(One one, int w) {
+        long[][] rows = new long[one.ground.length][3];
+        state(one, w, rows);
+        return rows;
+    }
+
+    /** A state, into rows: for each piece its place, the ground's force at it, F above it. */
+    private static void state(One one, int w, long[][] rows) {
         int n = one.ground.length;
-        long[][] rows = new long[n][3];
         long place = w;
         long force = Math.max(0, Math.min(one.tip[1], (long) one.tip[0] * w));
         for (int i = n - 1; i >= 0; i--) {
             int[] g = one.ground[i];
             long holds = Math.max(-g[1], Math.min(g[1], g[0] * (place - g[2])));
             force += holds;
-            rows[i] = new long[] {place, holds, force};
+            rows[i][0] = place;
+            rows[i][1] = holds;
+            rows[i][2] = force;
             long whole = force / one.spring;
             if (force < 0 && whole * one.spring != force) {
                 whole--;
             }
             place += whole;
         }
-        return rows;
     }
 
     /** Head and load of every state, by w from -100000 on. */
     private static long[][] states(One one) {
         if (one.states == null) {
             one.states = new long[2][2 * FAR + 1];
+            long[][] rows = new long[one.ground.length][3];
             for (int w = -FAR; w <= FAR; w++) {
-                long[] head = state(one, w)[0];
-                one.states[0][w + FAR] = head[0];
-                one.states[1][w + FAR] = head[2];
+                state(one, w, rows);
+                one.states[0][w + FAR] = rows[0][0];
+                one.states[1][w + FAR] = rows[0][2];
             }
         }
         return one.states;

@@ -1,16 +1,20 @@
-/** Promises 2 to 15 on runs of calls made by a fixed row of numbers, each answer compared with SlowPiles. */
+/**
+ * Promises 2 to 15 on runs of calls made by a fixed row of numbers, each answer compared with SlowPiles.
+ * No object is used for more than 512 calls: what later calls answer is free.
+ */
 final class SlowPilesTest {
     private static final int RUNS = 60;
+    /** Each makes four calls at most, after the 98 at most that make the piles. */
     private static final int CALLS = 90;
 
     private final Expect expect;
     private final PileMoves fast = new PileMoves();
     private final SlowPiles slow = new SlowPiles();
-    private long seed;
+    private final Numbers numbers;
 
     private SlowPilesTest(Expect expect, long seed) {
         this.expect = expect;
-        this.seed = seed;
+        numbers = new Numbers(seed);
     }
 
     public static void main(String[] args) {
@@ -30,26 +34,12 @@ final class SlowPilesTest {
         }
     }
 
-    /** The next of a row of numbers, 0 .. most. */
     private int upTo(int most) {
-        seed = seed * 6364136223846793005L + 1442695040888963407L;
-        return (int) ((seed >>> 33) % (most + 1L));
+        return numbers.upTo(most);
     }
 
-    /** Often small, sometimes the edges. */
     private int number(int least, int most) {
-        int kind = upTo(9);
-        if (kind == 0) {
-            return least;
-        }
-        if (kind == 1) {
-            return most;
-        }
-        int bound = most - least;
-        for (int halves = upTo(16); halves > 0; halves--) {
-            bound /= 2;
-        }
-        return least + upTo(bound);
+        return numbers.number(least, most);
     }
 
     private void makePile() {
@@ -181,11 +171,8 @@ final class SlowPilesTest {
         int speed = number(1, 1000);
         expect.same("blow(" + pile + ", " + hammer + ", " + speed + ")",
                 slow.blow(pile, hammer, speed), fast.blow(pile, hammer, speed));
-        for (int round = 0; round < 200; round++) {
-            for (int i = 0; i <= slow.struckPieces(); i++) {
-                expect.same("wave(" + round + ", " + i + ")", slow.wave(round, i), fast.wave(round, i));
-            }
-        }
+        compareWave();
+        compareWave();
     }
 
     private void compareWave() {
